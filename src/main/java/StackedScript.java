@@ -852,8 +852,6 @@ public final class StackedScript {
         void clear() {
             for (int letter = 0; letter < ALPHABET; letter++) {
                 kind[letter] = PLAIN;
-                firstPart[letter] = NONE;
-                secondPart[letter] = NONE;
                 joinedTo[letter] = 0;
             }
             ra = NONE;
@@ -1469,8 +1467,6 @@ public final class StackedScript {
 
         void clear() {
             size = 0;
-            x[0] = 0;
-            from[0] = 0;
         }
 
         void draw(int i) {

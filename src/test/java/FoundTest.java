@@ -95,7 +95,11 @@ public final class FoundTest {
 
     /** The two clusters of a text. */
     private static void ahead(String text, int want) {
-        StackedScript s = Check.told(MORE, text);
+        ahead(MORE, text, want);
+    }
+
+    private static void ahead(String script, String text, int want) {
+        StackedScript s = Check.told(script, text);
         Check.due("clusters of " + text, s.clusters(), 2);
         Check.due("compare of " + text, s.compare(0, 1), want);
         Check.due("the other way of " + text, s.compare(1, 0), want == 0 ? 0 : 3 - want);
@@ -129,8 +133,11 @@ public final class FoundTest {
         ahead("kkhs", 1);
         ahead("khskhg", 2);
         ahead("khgkhs", 1);
-        // A half ahead of base against a whole one.
+        // A half ahead of base against a whole one: the form tells ahead of what comes behind.
         ahead("khjskhbs", 2);
+        ahead(Check.SCRIPT, "khgkhbg", 2);
+        // Joined whole against joined half: the form tells ahead of the second letter.
+        ahead("consonants kgsp;virama h;half g;joins ks;joins kg;", "khghpkhshp", 2);
         StackedScript s = Check.told("k");
         Check.due("none such", s.compare(0, 1), -2);
         Check.due("none such", s.compare(1, 0), -2);

@@ -158,6 +158,9 @@ public final class GlyphsTest {
         StackedScript s = Check.told(MORE, text);
         Check.row("shown " + text, s::shown, want);
         Check.due("behind " + text, s.shown(text.length()), NONE);
+        // Behind another cluster, on an object that has shown others.
+        Check.text(s, "e" + text);
+        Check.row("shown e" + text, place -> s.shown(place + 1) - 1, want);
     }
 
     private static void shown() {

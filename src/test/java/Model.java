@@ -40,6 +40,8 @@ final class Model {
     private Told now = new Told(new int[26], new String[26], "", "", "", List.of(), "");
     private final List<Told> past = new ArrayList<>();
     private final Told[] images = new Told[2];
+    private Told tried = null;
+    private List<Integer> triedOut = List.of();
     private String tape = "";
     private int fault = 0;
     private int faultPlace = NONE;
@@ -610,8 +612,16 @@ final class Model {
         return now.text.length() <= MOST_TRIED;
     }
 
-    /** By numbers that tell in their bits which letters stay: the first place is the highest bit. */
     private List<Integer> out() {
+        if (tried != now) {
+            tried = now;
+            triedOut = tryOut();
+        }
+        return triedOut;
+    }
+
+    /** By numbers that tell in their bits which letters stay: the first place is the highest bit. */
+    private List<Integer> tryOut() {
         int n = now.text.length();
         List<Integer> best = null;
         for (int stay = 0; stay < 1 << n; stay++) {
@@ -796,7 +806,8 @@ final class Model {
     }
 
     private Broken even0(int w) {
-        return even(w, 0, drawn(), new Broken[61]);
+        // With one too wide all would be tried in vain.
+        return greedy(w) == null ? null : even(w, 0, drawn(), new Broken[61]);
     }
 
     int lines(int w) {

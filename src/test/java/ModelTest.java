@@ -3,6 +3,7 @@ import java.util.function.IntSupplier;
 /** All promises: long runs of calls, each asked of the class and of the model. */
 public final class ModelTest {
     private static final int RUNS = 400;
+    private static final int SWEEPS = 1000;
     private static final int CALLS = 512;
     private static final String[] LINES = {"consonants kgtrs", "vowels e", "virama h", "nukta n", "before i", "above u",
         "below d", "behind a", "splits oia", "splits ciu", "splits lud", "splits faa", "marks m", "marks pq", "tails z",
@@ -27,6 +28,9 @@ public final class ModelTest {
         int runs = args.length > 0 ? Integer.parseInt(args[0]) : RUNS;
         for (int run = 0; run < runs; run++) {
             new ModelTest(run).calls();
+        }
+        for (int run = 0; run < SWEEPS * runs / RUNS; run++) {
+            new ModelTest(RUNS + run).sweep();
         }
         Check.end();
     }
@@ -70,6 +74,10 @@ public final class ModelTest {
     }
 
     private String textOf(int most) {
+        if (below(3) == 0 && most > 10) {
+            String text = chains(most);
+            return text.substring(0, Math.min(most, text.length()));
+        }
         String often = below(3) == 0 ? "kkkgtrshhhhhhjb" : below(2) == 0 ? "kgtrsehniudaoclfmpzjbx" : "kgshhtrnjbiuo";
         StringBuilder text = new StringBuilder();
         int n = below(most + 1);
@@ -144,6 +152,54 @@ public final class ModelTest {
                     break;
             }
         }
+    }
+
+    /** Consonants with something between and behind them: long chains, or many like clusters. */
+    private String chains(int most) {
+        String[] between = {"h", "h", "h", "h", "h", "nh", "hj", "hb", "nhb", "", "i", "hm", "o"};
+        String consonants = below(2) == 0 ? "kgtrs" : "kst";
+        StringBuilder text = new StringBuilder(below(3) == 0 ? "rh" : "");
+        while (text.length() < most - 4) {
+            text.append(consonants.charAt(below(consonants.length()))).append(between[below(between.length)]);
+        }
+        return text.append(textOf(4)).toString();
+    }
+
+    /** All that can be asked of a short text. */
+    private void sweep() {
+        tellScript();
+        for (int texts = 0; texts < 2; texts++) {
+            String text = below(4) == 0 ? textOf(Model.MOST_TRIED) : chains(4 + below(Model.MOST_TRIED - 4));
+            feed(text);
+            both("text " + text, () -> s.text(text.length()), () -> m.text(text.length()));
+        }
+        for (int i = -1; i <= m.count(0); i++) {
+            int at = i;
+            both("shown " + at, () -> s.shown(at), () -> m.shown(at));
+            both("mend " + at, () -> s.mend(at), () -> m.mend(at));
+            both("may " + at, () -> s.may(at), () -> m.may(at));
+            both("back " + at, () -> s.back(at), () -> m.back(at));
+            both("x " + at, () -> s.x(at), () -> m.x(at));
+        }
+        for (int what = 0; what < 7; what++) {
+            for (int i = 0; i <= m.glyphs(); i++) {
+                int k = i;
+                int w = what;
+                both("glyph " + k + " " + w, () -> s.glyph(k, w), () -> m.glyph(k, w));
+            }
+        }
+        for (int i = 0; i < m.clusters(); i++) {
+            int c = i;
+            for (int what = 0; what < 11; what++) {
+                int w = what;
+                both("cluster " + c + " " + w, () -> s.cluster(c, w), () -> m.cluster(c, w));
+            }
+            both("ranked " + c, () -> s.ranked(c), () -> m.ranked(c));
+        }
+        both("order", s::order, m::order);
+        both("kinds", s::kinds, m::kinds);
+        both("mended", s::mended, m::mended);
+        both("clusters", s::clusters, m::clusters);
     }
 
     private int place() {
