@@ -1474,7 +1474,6 @@ public final class StackedScript {
                 return;
             }
             owner = i;
-            x[i + 1] = x[i];
             drawSigns(BEFORE, 0);
             drawAhead();
             drawMiddle();
@@ -1487,6 +1486,15 @@ public final class StackedScript {
             drawSigns(BEHIND, BEHIND_RANK);
             drawMarks(TAIL, TAIL_RANK);
             from[i + 1] = size;
+            measure(i);
+        }
+
+        private void measure(int i) {
+            x[i + 1] = x[i];
+            for (int k = from[i]; k < from[i + 1]; k++) {
+                fact[WIDE][k] = wideOf(fact[FORM][k], fact[RANK][k]);
+                x[i + 1] += fact[WIDE][k];
+            }
         }
 
         private int put(int form, int first, int second, int place, int rank) {
@@ -1499,8 +1507,6 @@ public final class StackedScript {
             fact[PLACE][size] = place;
             fact[OWNER][size] = owner;
             fact[RANK][size] = rank;
-            fact[WIDE][size] = wideOf(form, rank);
-            x[owner + 1] += fact[WIDE][size];
             size++;
             return size - 1;
         }
@@ -1556,24 +1562,24 @@ public final class StackedScript {
                 boolean isSecond = k > body.ahead && body.joinsNext[k - 1];
                 int last = body.joinsNext[k] ? k + 1 : k;
                 // One that is joined to base is drawn with it.
-                if (!isSecond && last < body.base) {
-                    drawOneAhead(k, last);
+                if (isSecond || last >= body.base) {
+                    continue;
                 }
+                boolean isHalf = isHalf(last);
+                int glyph = drawConsonants(k, last, isHalf, 1);
+                putLetter(NUKTA_FORM, body.nukta[last], 1);
+                if (isHalf) {
+                    showBy(body.virama[last], glyph);
+                } else {
+                    putLetter(VIRAMA_FORM, body.virama[last], 1);
+                }
+                putLetter(JOINER_FORM, body.joiner[last], 1);
             }
         }
 
-        private void drawOneAhead(int k, int last) {
-            int joiner = body.joiner[last];
-            boolean isHalf = hasBit(told.script.halved, told.letterAt(body.place[last])) == 1
-                && (joiner == NONE || cut.kindAt(joiner) != BREAKER);
-            int glyph = drawConsonants(k, last, isHalf, 1);
-            putLetter(NUKTA_FORM, body.nukta[last], 1);
-            if (isHalf) {
-                showBy(body.virama[last], glyph);
-            } else {
-                putLetter(VIRAMA_FORM, body.virama[last], 1);
-            }
-            putLetter(JOINER_FORM, joiner, 1);
+        private boolean isHalf(int k) {
+            boolean isKept = body.joiner[k] != NONE && cut.kindAt(body.joiner[k]) == BREAKER;
+            return !isKept && hasBit(told.script.halved, told.letterAt(body.place[k])) == 1;
         }
 
         // One consonant (k is last) or two joined ones.
