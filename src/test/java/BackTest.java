@@ -172,6 +172,9 @@ public final class BackTest {
         Check.row("count", s::count, 13, 17, 1, 20, 2, 19, 4, 3, NONE);
         Check.due("below", s.count(-1), NONE);
         Check.due("far", s.count(Integer.MAX_VALUE), NONE);
+        Check.due("the tape is emptied", s.find(0, 0), NONE);
+        Check.text(s, "k");
+        Check.row("count of less", s::count, 1, 17, 1, 0, 3, 4, 0, 0, NONE);
     }
 
     /** What README.md shows. */
