@@ -1,14 +1,25 @@
 import java.lang.reflect.Method;
+import java.lang.reflect.Modifier;
 import java.util.Arrays;
 import java.util.Comparator;
+import java.util.function.ToIntFunction;
 
-/** All calls in any state with any arguments: none throws, and refused ones change nothing. */
+/**
+ * All calls in any state with any arguments: none throws, and refused ones change nothing,
+ * which is told by a twin that isn't called with them and answers all the others alike.
+ */
 public final class AnyArgumentsTest {
     private static final int[] EDGES = {Integer.MIN_VALUE, Integer.MIN_VALUE + 1, -1000000, -31, -7, -2, -1, 0, 1, 2, 3, 5,
         6, 7, 9, 10, 11, 12, 20, 25, 26, 27, 31, 32, 33, 40, 58, 59, 60, 61, 62, 63, 64, 120, 121, 180, 200, 201, 399, 400,
         401, 999, 1000, 65536, 1 << 30, Integer.MAX_VALUE - 1, Integer.MAX_VALUE};
+    private static final int CALLS = 512;
+    private static final int CALLS_OF_TEXT = 4;
 
     private static long seed = 5;
+
+    private final StackedScript all = new StackedScript();
+    private final StackedScript twin = new StackedScript();
+    private int calls = 0;
 
     private AnyArgumentsTest() {
     }
@@ -20,42 +31,51 @@ public final class AnyArgumentsTest {
 
     public static void main(String[] args) throws Exception {
         Method[] calls = Arrays.stream(StackedScript.class.getDeclaredMethods())
-            .filter(call -> java.lang.reflect.Modifier.isPublic(call.getModifiers()))
+            .filter(call -> Modifier.isPublic(call.getModifiers()))
             .sorted(Comparator.comparing(Method::getName)).toArray(Method[]::new);
         Check.due("calls", calls.length, 43);
-        for (int run = 0; run < 300; run++) {
-            run(calls, run);
+        for (int run = 0; run < 400; run++) {
+            new AnyArgumentsTest().run(calls, run);
         }
         Check.end();
     }
 
-    private static void run(Method[] calls, int run) throws Exception {
-        StackedScript s = run % 3 == 0 ? new StackedScript() : Check.told(letters(run % 3 == 1 ? 60 : 20));
-        for (int k = 0; k < 480; k++) {
-            if (below(20) == 0) {
-                Check.text(s, letters(60));
+    private void run(Method[] face, int run) throws Exception {
+        if (run % 3 != 0) {
+            both(s -> Check.script(s, Check.SCRIPT), 1 + Check.SCRIPT.length() / 20 + 1);
+        }
+        while (calls < CALLS - CALLS_OF_TEXT) {
+            if (below(20) == 0 && all.count(3) == 0) {
+                String text = letters(run % 3 == 1 ? 60 : 20);
+                both(s -> Check.text(s, text), CALLS_OF_TEXT);
             }
-            Method call = calls[below(calls.length)];
+            calls += 2;
+            Method call = face[below(face.length)];
             Integer[] with = new Integer[call.getParameterCount()];
             for (int i = 0; i < with.length; i++) {
                 with[i] = below(2) == 0 ? below(12) : EDGES[below(EDGES.length)];
             }
-            String what = call.getName() + Arrays.toString(with);
-            String state = stateOf(s);
-            int tape = s.count(3);
-            int answer = (Integer) call.invoke(s, (Object[]) with);
-            if (answer < -1) {
-                Check.same("the state behind refused " + what, stateOf(s), state);
-                boolean empties = answer < -30 || answer == -4 && call.getName().equals("text");
-                Check.due("the tape behind refused " + what, s.count(3), empties ? 0 : tape);
-            }
-            boolean isCode = answer >= -6 || answer >= -33 && answer <= -31;
-            Check.due("an answer that can be of " + what, isCode ? 1 : 0, 1);
+            compare(call, with);
         }
     }
 
-    private static String stateOf(StackedScript s) {
-        return Check.textOf(s) + " " + s.count(1) + " " + s.count(2) + " " + s.count(4) + " " + s.glyphs();
+    private void both(ToIntFunction<StackedScript> call, int many) {
+        calls += many;
+        Check.due("told", call.applyAsInt(all), call.applyAsInt(twin));
+    }
+
+    private void compare(Method call, Integer[] with) throws Exception {
+        String what = call.getName() + Arrays.toString(with);
+        int answer = (Integer) call.invoke(all, (Object[]) with);
+        boolean isCode = answer >= -6 || answer >= -33 && answer <= -31;
+        Check.due("an answer that can be of " + what, isCode ? 1 : 0, 1);
+        boolean emptiesTape = answer < -30 || answer == -4 && call.getName().equals("text");
+        if (answer >= -1 || emptiesTape) {
+            Check.due(what + " as the twin", answer, (Integer) call.invoke(twin, (Object[]) with));
+        }
+        if (emptiesTape) {
+            Check.due("the tape behind " + what, all.count(3), 0);
+        }
     }
 
     private static String letters(int most) {

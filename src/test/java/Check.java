@@ -84,6 +84,17 @@ final class Check {
         return row.toString();
     }
 
+    /** The letters that are told as bits. */
+    static String lettersOf(int bits) {
+        StringBuilder row = new StringBuilder();
+        for (int letter = 0; letter < 32; letter++) {
+            if ((bits >>> letter & 1) == 1) {
+                row.append((char) ('a' + letter));
+            }
+        }
+        return row.toString();
+    }
+
     /** All glyphs as their rank, their form, their letters, the place told: "2.0k@0". */
     static String glyphsOf(StackedScript s) {
         StringBuilder row = new StringBuilder();

@@ -321,32 +321,22 @@ public final class LettersTest {
         Check.due("the last of sixty", Check.told(Check.times("h", 60)).mend(59), 59);
     }
 
-    private static String letters(int bits) {
-        StringBuilder row = new StringBuilder();
-        for (int letter = 0; letter < 32; letter++) {
-            if ((bits >>> letter & 1) == 1) {
-                row.append((char) ('a' + letter));
-            }
-        }
-        return row.toString();
-    }
-
     private static void mayComeIn() {
         StackedScript s = Check.told("kih");
         // Ahead of k: consonants, vowels, none, joiner, breaker.
-        Check.same("ahead", letters(s.may(0)), "bcefgjklpqrstvwxy");
+        Check.same("ahead", Check.lettersOf(s.may(0)), "bcefgjklpqrstvwxy");
         // Between k and its sign: no mark breaks no more; a virama makes the sign broken, ...
-        Check.same("behind k", letters(s.may(1)), "adgiknorstu");
+        Check.same("behind k", Check.lettersOf(s.may(1)), "adgiknorstu");
         // h is broken: behind a consonant it isn't.
-        Check.same("ahead of h", letters(s.may(2)), "abcdefgijklmnopqrstuvwxyz");
-        Check.same("behind h", letters(s.may(3)), "bcefgjklmpqrstvwxyz");
+        Check.same("ahead of h", Check.lettersOf(s.may(2)), "abcdefgijklmnopqrstuvwxyz");
+        Check.same("behind h", Check.lettersOf(s.may(3)), "bcefgjklmpqrstvwxyz");
         Check.due("above", s.may(4), -5);
         Check.due("below", s.may(-1), -5);
         Check.due("far", s.may(Integer.MAX_VALUE), -5);
-        Check.same("an empty text", letters(Check.told("").may(0)), "bcefgjklpqrstvwxy");
+        Check.same("an empty text", Check.lettersOf(Check.told("").may(0)), "bcefgjklpqrstvwxy");
         Check.due("no script", new StackedScript().may(0), (1 << 26) - 1);
-        Check.same("sixty", letters(Check.told(Check.times("k", 60)).may(60)), "abcdefghijklmnopqrstuvwxyz");
-        Check.same("sixty, ahead", letters(Check.told(Check.times("k", 60)).may(0)), "bcefgjklpqrstvwxy");
+        Check.same("sixty", Check.lettersOf(Check.told(Check.times("k", 60)).may(60)), "abcdefghijklmnopqrstuvwxyz");
+        Check.same("sixty, ahead", Check.lettersOf(Check.told(Check.times("k", 60)).may(0)), "bcefgjklpqrstvwxy");
     }
 
     private static void mended() {

@@ -48,6 +48,10 @@ final class Model {
 
     // ---- what was told
 
+    String letters() {
+        return now.text;
+    }
+
     private int kind(char letter) {
         return now.kinds[letter - 'a'];
     }

@@ -41,7 +41,7 @@ public final class ModelTest {
     }
 
     private void due(String call, int got, int want) {
-        Check.due("run " + run + ", call " + step + ": " + call + " on \"" + Check.textOf(s) + "\"", got, want);
+        Check.due("run " + run + ", call " + step + ": " + call + " on \"" + m.letters() + "\"", got, want);
     }
 
     private void both(String call, IntSupplier ours, IntSupplier models) {
@@ -123,7 +123,7 @@ public final class ModelTest {
     }
 
     private void findSome() {
-        String text = Check.textOf(s);
+        String text = m.letters();
         int from = below(text.length() + 1);
         int to = from + below(Math.min(8, text.length() - from + 1));
         String what = below(3) == 0 ? textOf(3) : text.substring(from, to);
@@ -165,7 +165,7 @@ public final class ModelTest {
         return text.append(textOf(4)).toString();
     }
 
-    /** All that can be asked of a short text. */
+    /** All that can be asked of a short text, but for what would be more than 512 calls. */
     private void sweep() {
         tellScript();
         for (int texts = 0; texts < 2; texts++) {
